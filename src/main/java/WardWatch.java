@@ -443,7 +443,8 @@ public final class WardWatch {
         private static final int OTHERS = MOST - 1;
         private static final int ROW_BITS = 4;
         private static final int SUM_SHIFT = ROW_BITS * MOST;
-        private static final int MEN_SHIFT = SUM_SHIFT + 14;
+        private static final int SUM_BITS = 14;
+        private static final int MEN_SHIFT = SUM_SHIFT + SUM_BITS;
         private static final long ONE_MAN = 1L << MEN_SHIFT;
         // Above every WITHIN, and ten of it are still an int.
         private static final int TOO_FAR = 100000;
@@ -597,7 +598,7 @@ public final class WardWatch {
 
         private void keepPlan(long plan) {
             men = (int) (plan >> MEN_SHIFT);
-            sum = (int) (plan >> SUM_SHIFT) & (1 << MEN_SHIFT - SUM_SHIFT) - 1;
+            sum = (int) (plan >> SUM_SHIFT) & ((1 << SUM_BITS) - 1);
             Arrays.fill(manOf, NONE);
             Arrays.fill(courtsOf, 0);
             for (int man = 0; man < men && man < MOST; man++) {
@@ -609,7 +610,8 @@ public final class WardWatch {
         private int keepPartOf(int man, long plan) {
             int part = 0;
             for (int i = 0; i < places; i++) {
-                if ((plan >> rowShift(i) & (1 << ROW_BITS) - 1) == man) {
+                int manOfPlace = (int) (plan >> rowShift(i)) & ((1 << ROW_BITS) - 1);
+                if (manOfPlace == man) {
                     part |= 1 << i;
                     manOf[courts[i]] = man;
                     courtsOf[man] |= 1 << courts[i];
@@ -1080,7 +1082,7 @@ public final class WardWatch {
         private final int ward;
         private final int power;
         private final int hour;
-        private int state;
+        private int state = LIES;
         private int lockup = NONE;
 
         Charge(int ward, int power, int hour) {
@@ -1140,7 +1142,6 @@ public final class WardWatch {
                 charge.state = Charge.LET_GO;
                 return;
             }
-            charge.state = Charge.LIES;
             charge.lockup = lockup;
             wards[lockup].lying++;
         }

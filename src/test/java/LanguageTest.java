@@ -87,6 +87,9 @@ public final class LanguageTest {
             Due.is(c.getName() + " has some twenty fields", fields <= 20 ? 1 : 0, 1);
             for (Method method : c.getDeclaredMethods()) {
                 Due.is(method + " takes at most seven", method.getParameterCount() <= 7 ? 1 : 0, 1);
+                for (String call : FACE) {
+                    Due.is(method + " bears no name of the face", call.startsWith(method.getName() + "(") ? 1 : 0, 0);
+                }
             }
         }
     }

@@ -47,6 +47,10 @@ public final class LawsTest {
         Due.tellLaws(x, 3, " \n \n", 0);
         laws(x, 3, 21, 60, 7, 100, -1, -1, 0, 4, 0);
         Due.is("may behind an empty text", x.may(3, 1, 1, true), 0);
+        for (int i = 0; i < 3; i++) {
+            Due.tellLaws(x, 1, i == 0 ? "follow 5 cry;" : "leave 5;", 1);
+            laws(x, 1, 21, 60, i == 0 ? 7 : 5, 100, -1, i == 0 ? 5 : -1, i == 0 ? 1 : 0, 4, 0);
+        }
         String most = "age 0 99;leave 30;fine 9999;hire 9999;follow 999;lockup 20;" + POWER.repeat(12);
         Due.tellLaws(x, 2, most, 18);
         laws(x, 2, 0, 99, 30, 9999, 9999, 999, 0, 20, 12);
@@ -83,6 +87,13 @@ public final class LawsTest {
         Due.faulty(x, 0, "age 1 2;;", 1, 8);
         Due.faulty(x, 0, "agee 1 2;", 1, 0);
         Due.faulty(x, 0, "ag 1 2;", 1, 0);
+        Due.faulty(x, 0, "bge 1 2;", 1, 0);
+        Due.faulty(x, 0, "aga 1 2;", 1, 0);
+        Due.faulty(x, 0, "agez 1 2;", 1, 0);
+        Due.faulty(x, 0, "age{1 2;", 1, 3);
+        Due.faulty(x, 0, "age`1 2;", 1, 3);
+        Due.faulty(x, 0, "age/1 2;", 1, 3);
+        Due.faulty(x, 0, "age:1 2;", 1, 3);
         Due.faulty(x, 0, "agE 1 2;", 1, 0);
         Due.faulty(x, 0, "age 1 2.", 1, 7);
         Due.faulty(x, 0, "age\t1 2;", 1, 3);

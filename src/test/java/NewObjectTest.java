@@ -47,6 +47,7 @@ public final class NewObjectTest {
             Due.is("lock-up of " + w, x.count(20 + w), 0);
             Due.is("latest year of " + w, x.count(30 + w), -1);
             Due.is("year of " + w, x.year(w, 1600, 0), -9);
+            Due.is("year NONE of " + w, x.year(w, -1, 0), -9);
         }
     }
 

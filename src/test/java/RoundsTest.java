@@ -21,6 +21,7 @@ public final class RoundsTest {
         wrongSets();
         latestThatToldANumber();
         rowBeforeFirstPart();
+        firstWithin();
         keptWhenTheTownChanges();
         for (int seed = 0; seed < 250; seed++) {
             new RoundsTest().compare(new Random(seed), 1 + seed % 7);
@@ -91,6 +92,18 @@ public final class RoundsTest {
         for (int c = 0; c < row.length; c++) {
             Due.is("man of " + c, x.round(10 + c), row[c]);
         }
+    }
+
+    private static void firstWithin() {
+        WardWatch x = new WardWatch();
+        x.way(9, 10, 20);
+        x.way(10, 11, 20);
+        x.way(11, 9, 21);
+        Due.is("61 minutes are above 60", x.rounds(7 << 9), 2);
+        Due.is("round(0)", x.round(0), 40);
+        x.way(11, 9, 20);
+        Due.is("60 minutes are not", x.rounds(7 << 9), 1);
+        Due.is("round(0)", x.round(0), 60);
     }
 
     private static void keptWhenTheTownChanges() {
