@@ -124,18 +124,23 @@ public final class WardWatch {
     // ---- laws
 
     public int laws(int ward) {
-        if (!isWard(ward)) {
-            return RANGE;
+        // A text for no such ward is emptied unread, so that the latest fault stays.
+        int lines = RANGE;
+        if (isWard(ward)) {
+            lines = reader.read(draft);
+            if (lines != NONE) {
+                enactDraft(wards[ward]);
+            }
         }
-        int lines = reader.read(draft);
         tape.cut(0);
-        if (lines != NONE) {
-            // The two change places, so that no text needs new objects.
-            Laws told = draft;
-            draft = wards[ward].laws;
-            wards[ward].laws = told;
-        }
         return lines;
+    }
+
+    /** The two change places, so that no text needs new objects. */
+    private void enactDraft(Ward ward) {
+        Laws told = draft;
+        draft = ward.laws;
+        ward.laws = told;
     }
 
     public int fault(int what) {

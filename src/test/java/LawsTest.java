@@ -151,15 +151,22 @@ public final class LawsTest {
     private static void latestFault() {
         WardWatch x = new WardWatch();
         Due.faulty(x, 1, "leave 99;", 2, 6);
-        Due.is("laws(4)", x.laws(4), -2);
-        Due.is("fault(0)", x.fault(0), 2);
-        Due.is("fault(1)", x.fault(1), 6);
+        for (String unread : new String[] {"", "leave 9;", "leave 9; leave 9;"}) {
+            Due.lay(x, unread);
+            Due.is("laws(4)", x.laws(4), -2);
+            Due.is("fault(0)", x.fault(0), 2);
+            Due.is("fault(1)", x.fault(1), 6);
+        }
         for (int what : new int[] {2, -1, 10, Integer.MAX_VALUE, Integer.MIN_VALUE}) {
             Due.is("fault(" + what + ")", x.fault(what), -1);
         }
         Due.tellLaws(x, 1, "leave 9;", 1);
+        Due.lay(x, "leave 31;");
         Due.is("laws(-1)", x.laws(-1), -2);
         Due.is("fault(0)", x.fault(0), 0);
+        Due.is("fault(1)", x.fault(1), -1);
+        Due.is("law(1, 2)", x.law(1, 2), 9);
+        Due.is("laws(1) behind it", x.laws(1), 0);
     }
 
     private static void wrongAsks() {

@@ -75,10 +75,13 @@ public final class TapeTest {
 
     private static void readTapesAreEmpty() {
         WardWatch x = new WardWatch();
+        for (int wrong : new int[] {4, -1, Integer.MAX_VALUE, Integer.MIN_VALUE}) {
+            Due.lay(x, "leave 3;");
+            Due.is("laws(" + wrong + ")", x.laws(wrong), -2);
+            Due.is("laws of no such ward", x.count(2), 0);
+            Due.is("feed behind laws of no such ward", x.feed(0, 0, 0, 0, 0), 20);
+        }
         Due.lay(x, "leave 3;");
-        Due.is("laws(4)", x.laws(4), -2);
-        Due.is("laws(-1)", x.laws(-1), -2);
-        Due.is("no such ward reads nothing", x.count(2), 8);
         Due.is("laws(3)", x.laws(3), 1);
         Due.is("read laws", x.count(2), 0);
         Due.lay(x, "leave");
