@@ -19,7 +19,7 @@ public final class AnyArgumentsTest {
         WardWatch x = new WardWatch();
         WardWatch y = new WardWatch();
         Random random = new Random(seed);
-        for (int call = 0; call < 500; call++) {
+        for (int call = 0; call < 470; call++) {
             int which = random.nextInt(25);
             int[] n = new int[5];
             for (int i = 0; i < 5; i++) {
