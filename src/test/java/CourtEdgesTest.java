@@ -1,4 +1,4 @@
-/** The edges that the document names in part I, for promises 4 to 9; each method quotes its sentence. */
+/** The edges that the document names in part I, for promises 4 to 9; a method quotes its sentence, or says it. */
 public final class CourtEdgesTest {
     private static final int COURTS = 12;
 

@@ -1,4 +1,4 @@
-/** The edges that the document names in part II, for promises 2, 3 and 10 to 13; each method quotes its sentence. */
+/** The edges that the document names in part II, for promises 2, 3 and 10 to 13; a method quotes its sentence, or says it. */
 public final class LawEdgesTest {
     private static final String POWER = "power hold from 1 to 2;";
     private static final int BLANKS = 0x20202020;

@@ -1,6 +1,6 @@
 import java.util.Arrays;
 
-/** The edges that the document names in parts IV and V, for promises 20 to 26; each method quotes its sentence. */
+/** The edges that the document names in parts IV and V, for promises 20 to 26; a method quotes its sentence, or says it. */
 public final class NightEdgesTest {
     private static final String ALWAYS = "power stop from 0 to 23;";
     private static final int LIES = 0;

@@ -1,4 +1,4 @@
-/** The edges that the document names in part III, for promises 14 to 19; each method quotes its sentence. */
+/** The edges that the document names in part III, for promises 14 to 19; a method quotes its sentence, or says it. */
 public final class RollEdgesTest {
     private static final int SERVE = 0;
     private static final int HIRE = 1;
