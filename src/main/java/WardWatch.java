@@ -591,12 +591,14 @@ public final class WardWatch {
             int others = part & (part - 1);
             long best = Long.MAX_VALUE;
             // Each subset of the others once, every one a lesser number than the one before it.
-            for (int left = others; left >= 0; left = left == 0 ? -1 : (left - 1) & others) {
+            int left = others;
+            for (int tried = 0; tried < PARTS && left >= 0; tried++) {
                 int tour = tours[part ^ left];
                 if (tour != TOO_FAR) {
                     long plan = plans[left] + ones[left] + ONE_MAN + ((long) tour << SUM_SHIFT);
                     best = Math.min(best, plan);
                 }
+                left = left == 0 ? NONE : (left - 1) & others;
             }
             return best;
         }

@@ -23,7 +23,11 @@ public final class LanguageTest {
     public static void main(String[] args) throws IOException {
         face();
         classesInside();
-        words(Files.readString(Path.of(SOURCE)));
+        String source = Files.readString(Path.of(SOURCE));
+        String code = source.replaceAll("(?s)/\\*.*?\\*/", "").replaceAll("//[^\n]*", "");
+        words(code);
+        loops(code);
+        lengths(code);
         Due.end();
     }
 
@@ -94,8 +98,7 @@ public final class LanguageTest {
         }
     }
 
-    private static void words(String source) {
-        String code = source.replaceAll("(?s)/\\*.*?\\*/", "").replaceAll("//[^\n]*", "");
+    private static void words(String code) {
         String[] never = {"throw", "throws", "try", "catch", "finally", "synchronized", "assert", "package", "static \\{",
             "->", "::", "Exact", "new \\w+\\([^()]*\\) \\{", "System\\.(?!arraycopy)", "Random", "Thread", "Object"};
         for (String word : never) {
@@ -107,5 +110,35 @@ public final class LanguageTest {
         while (imports.find()) {
             Due.is("import " + imports.group(1), Set.of("java.util.Arrays").contains(imports.group(1)) ? 1 : 0, 1);
         }
+    }
+
+    /** Rule 9: a for counts by steps of one size, and a for or while looks at a counter against a bound. */
+    private static void loops(String code) {
+        Matcher fors = Pattern.compile("\\bfor \\(([^;]*);([^;]*);(.*)\\) \\{").matcher(code);
+        int found = 0;
+        while (fors.find()) {
+            found++;
+            Due.is("steps of " + fors.group(), fors.group(3).trim().matches("\\w+(\\+\\+|--| [-+]= \\d+)") ? 1 : 0, 1);
+            String counter = fors.group(3).trim().split("\\W")[0];
+            Due.is("bound of " + fors.group(), fors.group(2).matches(".*\\b" + counter + " [<>].*") ? 1 : 0, 1);
+        }
+        Matcher whiles = Pattern.compile("\\bwhile \\((.*)\\) \\{").matcher(code);
+        while (whiles.find()) {
+            found++;
+            Due.is("bound of " + whiles.group(), whiles.group(1).contains(" < ") ? 1 : 0, 1);
+        }
+        Due.is("every loop was looked at", found, Pattern.compile("\\b(for|while|do)\\b").matcher(code).results().count());
+    }
+
+    /** Rule 11: from a method's first line to the brace that stands under it. */
+    private static void lengths(String code) {
+        Matcher methods = Pattern.compile("(?m)^((?: {4}){1,2})\\w[^=;{}]*\\) \\{$(?s:.*?)^\\1\\}$").matcher(code);
+        int found = 0;
+        while (methods.find()) {
+            found++;
+            Due.is("lines of " + methods.group().lines().findFirst().orElse(""),
+                    methods.group().lines().count() <= 60 ? 1 : 0, 1);
+        }
+        Due.is("methods were found", found > FACE.length ? 1 : 0, 1);
     }
 }
